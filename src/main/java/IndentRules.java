@@ -712,7 +712,7 @@ public final class IndentRules {
         }
 
         int placeOf(Nesting nesting, int c) {
-            return baseOf(nesting, c) + nesting.widthAheadOf[c];
+            return columns[nesting.lineOf[c]] + nesting.widthAheadOf[c];
         }
 
         int kindOf(Nesting nesting, int c) {

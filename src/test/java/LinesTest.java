@@ -136,6 +136,10 @@ public final class LinesTest {
         IndentRules y = Due.lines(2, 2, 18, 18);
         Due.due("from the middle", y.take(1), 2);
         Due.ofLines("from the middle", y, 1, 0, 4, 4);
+        IndentRules z = Due.lines(1, 2, 3);
+        z.take(0);
+        z.put(2, 4);
+        Due.ofLines("a line behind it then is a line of its own", z, 0, 2, 3, 4);
     }
 
     private static void takeRefuses() {

@@ -12,6 +12,8 @@ public final class PocketsTest {
         copyRefuses();
         ofPocketRefuses();
         manyCounts();
+        manyOfTheFirstAndTheGone();
+        manyOfTheMost();
         Due.finish();
     }
 
@@ -117,11 +119,13 @@ public final class PocketsTest {
         IndentRules x = threeKinds();
         x.pocket(0, 2, 3);
         x.store(0, 1, 1);
+        x.store(0, 0, 2);
         x.pocket(1, 1, 6);
         x.store(1, 5, 0);
         Due.due("copy(0, 1)", x.copy(0, 1), 1);
         cell("what lay in it", x, 1, 1, 1, 7, 2);
-        cell("empty cells", x, 1, 0, NONE, NONE, NONE);
+        cell("what lay in its first cell", x, 1, 0, 2, 15, 3);
+        cell("an empty cell", x, 1, 2, NONE, NONE, NONE);
         Due.due("its length", x.ofPocket(1, 3, 0), IndentRules.INDEX);
         Due.due("its kind", x.store(1, 0, 0), IndentRules.KIND);
         x.store(1, 1, 2);
@@ -182,5 +186,42 @@ public final class PocketsTest {
         Due.due("all are open", x.many(2), 4);
         Due.due("many(6)", x.many(6), IndentRules.OUTSIDE);
         Due.due("many(-1)", x.many(-1), IndentRules.OUTSIDE);
+    }
+
+    private static void manyOfTheFirstAndTheGone() {
+        IndentRules x = Due.lines(35, 2, 35);
+        x.see(0, 0);
+        x.see(2, 0);
+        Due.due("strays of the first line", x.many(3), 3);
+        Due.due("the first line was seen", x.many(4), 2);
+        x.take(2);
+        int[] want = {2, 1, 1, 2, 1, 3};
+        for (int what = 0; what < want.length; what++) {
+            Due.due("without the last: many(" + what + ")", x.many(what), want[what]);
+        }
+        Due.due("the gone line does not fit", x.fits(1, 1, 0, 0), 1);
+        Due.due("the gone line is not unlike", x.unlike(1), NONE);
+        x.take(0);
+        Due.due("the gone lines make no guess", x.guess(0), IndentRules.STATE);
+        x.take(0);
+        for (int what = 0; what < want.length; what++) {
+            Due.due("without all: many(" + what + ")", x.many(what), 0);
+        }
+    }
+
+    private static void manyOfTheMost() {
+        IndentRules x = new IndentRules();
+        for (int l = 0; l < 20; l++) {
+            x.put(l, l % 2 == 0 ? 222222222 : 555555555);
+            x.see(l, 200);
+        }
+        int[] want = {20, 90, 90, 90, 20, 180};
+        for (int what = 0; what < want.length; what++) {
+            Due.due("the most: many(" + what + ")", x.many(what), want[what]);
+        }
+        Due.due("the most: unlike", x.unlike(19), 19);
+        Due.due("the most: fits", x.fits(8, 8, 1, 1), 0);
+        Due.due("the most: guess", x.guess(4), 0);
+        Due.due("the most: no opener more", x.opener(90, 0), IndentRules.UNKNOWN);
     }
 }

@@ -144,6 +144,9 @@ public final class StylesTest {
         IndentRules w = Due.lines(2, 3);
         see(w, NONE, 8);
         guessIs("the last STEP", w, 8, 1, 0, 1, 0.5);
+        IndentRules u = Due.lines(1, 8);
+        see(u, NONE, 8);
+        guessIs("the last HANG", u, 1, 8, 0, 0, 1);
         Due.due("the style stays", w.style(0, 4), 4);
         IndentRules v = Due.lines(2, 8, 3, 22222, 8);
         see(v, NONE, 2, NONE, NONE, 3);
