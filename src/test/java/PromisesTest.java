@@ -28,6 +28,7 @@ public final class PromisesTest {
         takeMovesAllOthers();
         takeOfTheOnlyLine();
         takeMakesRoom();
+        whatItWasIsJustAheadOfTheCall();
         linesWithoutTokensDoNotMove();
         styleTellsWhatItWas();
         styleChangesOneSetting();
@@ -259,8 +260,22 @@ public final class PromisesTest {
             Due.due("line 19 is no more", x.ofLine(19, 0), IndentRules.UNKNOWN);
             Due.due("room for one", x.put(19, 7), 0);
             Due.due("it is line 19", x.ofLine(19, 0), 7);
+            Due.due("the one ahead of it stays", x.ofLine(18, 0), 8);
             Due.due("full again", x.put(0, 8), IndentRules.FULL);
         }
+    }
+
+    /** "not what it was": as the call came, not at some call before it. */
+    private static void whatItWasIsJustAheadOfTheCall() {
+        IndentRules x = Due.lines(2, 8);
+        Due.due("out", x.take(0), 1);
+        Due.due("in", x.put(0, 2), 1);
+        Due.due("out again", x.change(0, 8), 1);
+        x.style(1, 3);
+        Due.due("in by HANG", x.change(0, 1), 1);
+        x.style(1, 5);
+        Due.due("style has moved it before", x.change(0, 16), 0);
+        Due.ofLines("style has moved it before", x, 1, 0, 5);
     }
 
     private static void linesWithoutTokensDoNotMove() {
