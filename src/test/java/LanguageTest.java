@@ -243,8 +243,8 @@ public final class LanguageTest extends TreeScanner<Void, Void> {
             boolean up = step.startsWith(counter + "++");
             Due.check("rule 9: by one: " + step + where(tree), up || step.startsWith(counter + "--"));
             String condition = tree.getCondition().toString();
-            Due.check("rule 9: against a bound: " + condition + where(tree), condition.startsWith("(" + counter + (up ? " <" : " >"))
-                || condition.startsWith(counter + (up ? " <" : " >")));
+            String bound = counter + (up ? " <" : " >");
+            Due.check("rule 9: against a bound: " + condition + where(tree), condition.startsWith(bound));
             Due.check("rule 9: not changed within" + where(tree), !changedIn(tree.getStatement(), counter));
         }
         return super.visitForLoop(tree, unused);
